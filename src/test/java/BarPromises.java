@@ -153,6 +153,12 @@ public final class BarPromises {
         x.stock(5, 4);
         x.order(5, 2);
         listIs(x, "of equal prices the fewest bars", 8, new int[][] {{0, 0, 2}});
+        x.noBars();
+        x.stock(10, 8);
+        x.stock(6, 4);
+        x.order(4, 2);
+        x.order(6, 2);
+        listIs(x, "fewest bars ahead of the greatest pattern", 16, new int[][] {{0, 0, 1, 1}, {0, 0, 1, 1}});
     }
 
     private static void greatestPatternFirst() {

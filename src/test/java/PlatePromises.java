@@ -163,6 +163,13 @@ public final class PlatePromises {
         x.value(0, 1000);
         x.plate(16, 16, 0, 2, 0);
         Due.is("the greatest worth there is", x.worth(0, 0, 16, 16, 1), 256000);
+        Due.is("and again", x.worth(0, 0, 16, 16, 1), 256000);
+        Due.is("the most pieces", x.pieces(), 256);
+        Due.is("the most cuts", x.cuts(), 255);
+        Due.is("row of the last cut", x.cut(254, 2), 15);
+        Due.is("no cut more", x.cut(255, 0), CuttingRules.NONE);
+        Due.is("no piece more", x.piece(256, 0), CuttingRules.NONE);
+        Due.is("last piece", x.piece(255, 1) * 16 + x.piece(255, 2), 255);
     }
 
     private static void stagesAndDirections() {

@@ -340,21 +340,17 @@ public final class CuttingRules {
     }
 
     /**
-     * The worth of every part that is asked for, each worked out once. All clean parts of one size
-     * and stage are worth the same, so they share a small table; it also bounds the spoiled ones.
+     * The worths of all parts, worked out when they are first asked for after a change. All clean
+     * parts of one size and stage are worth the same, so these share a small table; where nothing
+     * is spoiled it is the only one, and elsewhere it bounds what a spoiled part can be worth.
      */
     private static final class Worths {
         private static final int SPANS = MOST_SIDE * (MOST_SIDE + 1) / 2;
-        // A worth is at most 16 * 16 * 1000, which 18 bits hold; the mark stands above them.
-        private static final int WORTH_BITS = 18;
-        private static final int WORTH_MASK = (1 << WORTH_BITS) - 1;
-        private static final int LAST_MARK = (1 << (32 - WORTH_BITS)) - 1;
 
         final Sheet sheet;
         final Kinds kinds;
-        final int[] clean = new int[MOST_STAGES * MOST_SIDE * MOST_SIDE];
-        final int[] known = new int[MOST_STAGES * SPANS * SPANS];
-        int mark = 0;
+        final int[] ofSizes = new int[MOST_STAGES * MOST_SIDE * MOST_SIDE];
+        final int[] ofParts = new int[MOST_STAGES * SPANS * SPANS];
         boolean stale = true;
 
         Worths(Sheet theSheet, Kinds theKinds) {
@@ -366,83 +362,23 @@ public final class CuttingRules {
             stale = true;
         }
 
-        // What bears an older mark is unknown again, without a walk over the whole table.
         void makeReady() {
             if (!stale) {
                 return;
             }
-            mark++;
-            if (mark > LAST_MARK) {
-                Arrays.fill(known, 0);
-                mark = 1;
+            fillSizes();
+            if (sheet.defects > 0) {
+                fillParts();
             }
-            fillClean();
             stale = false;
         }
 
-        // A part's worth takes those of smaller sizes and of later stages: these come first.
-        private void fillClean() {
-            for (int stage = sheet.stages; stage >= 1; stage--) {
-                for (int w = 1; w <= sheet.width; w++) {
-                    for (int h = 1; h <= sheet.height; h++) {
-                        int slot = cleanSlot(w, h, stage);
-                        if (within(slot, 0, clean.length - 1)) {
-                            clean[slot] = mostOfClean(w, h, stage);
-                        }
-                    }
-                }
-            }
-        }
-
-        private int mostOfClean(int w, int h, int stage) {
-            int most = Math.max(kinds.mostValue(w, h), cleanWorth(w, h, stage + 1));
-            int last = sheet.lastCut(w, h, stage);
-            boolean partsWidth = sheet.partsWidth(stage);
-            for (int c = 1; c <= last; c++) {
-                int behind = c + sheet.kerf;
-                int sum = partsWidth
-                        ? cleanWorth(c, h, stage) + cleanWorth(w - behind, h, stage)
-                        : cleanWorth(w, c, stage) + cleanWorth(w, h - behind, stage);
-                most = Math.max(most, sum);
-            }
-            return most;
-        }
-
-        private int cleanWorth(int w, int h, int stage) {
-            int slot = cleanSlot(w, h, stage);
-            return stage <= sheet.stages && within(slot, 0, clean.length - 1) ? clean[slot] : 0;
-        }
-
-        private static int cleanSlot(int w, int h, int stage) {
-            return ((stage - 1) * MOST_SIDE + w - 1) * MOST_SIDE + h - 1;
-        }
-
-        /**
-         * The worth of a part of the plate. Each level further down has a smaller width or height
-         * or a later stage, so there are 34 levels at most.
-         */
         int of(int x, int y, int w, int h, int stage) {
-            int slot = slot(x, y, w, h, stage);
-            if (!within(slot, 0, known.length - 1)) {
-                return 0;
+            if (sheet.defects == 0) {
+                return ofSize(w, h, stage);
             }
-            if (known[slot] >>> WORTH_BITS == mark) {
-                return known[slot] & WORTH_MASK;
-            }
-            int bound = cleanWorth(w, h, stage);
-            int worth = bound == 0 || sheet.isClean(x, y, w, h)
-                    ? bound : mostOfSpoiled(x, y, w, h, stage, bound);
-            known[slot] = mark << WORTH_BITS | worth;
-            return worth;
-        }
-
-        private int mostOfSpoiled(int x, int y, int w, int h, int stage, int bound) {
-            int most = stage < sheet.stages ? of(x, y, w, h, stage + 1) : 0;
-            int last = sheet.lastCut(w, h, stage);
-            for (int c = 1; c <= last && most < bound; c++) {
-                most = Math.max(most, ofCut(x, y, w, h, stage, c));
-            }
-            return most;
+            int slot = partSlot(stage, span(x, x + w), span(y, y + h));
+            return within(slot, 0, ofParts.length - 1) ? ofParts[slot] : 0;
         }
 
         int ofCut(int x, int y, int w, int h, int stage, int c) {
@@ -452,14 +388,108 @@ public final class CuttingRules {
                     : of(x, y, w, c, stage) + of(x, y + behind, w, h - behind, stage);
         }
 
-        private static int slot(int x, int y, int w, int h, int stage) {
-            return ((stage - 1) * SPANS + span(x, w)) * SPANS + span(y, h);
+        // A part's worth takes those of smaller sizes and of later stages: these come first.
+        private void fillSizes() {
+            for (int stage = sheet.stages; stage >= 1; stage--) {
+                for (int w = 1; w <= sheet.width; w++) {
+                    for (int h = 1; h <= sheet.height; h++) {
+                        int slot = sizeSlot(w, h, stage);
+                        if (within(slot, 0, ofSizes.length - 1)) {
+                            ofSizes[slot] = mostOfSize(w, h, stage);
+                        }
+                    }
+                }
+            }
+        }
+
+        private int mostOfSize(int w, int h, int stage) {
+            int most = Math.max(kinds.mostValue(w, h), ofSize(w, h, stage + 1));
+            int last = sheet.lastCut(w, h, stage);
+            boolean partsWidth = sheet.partsWidth(stage);
+            for (int c = 1; c <= last; c++) {
+                int behind = c + sheet.kerf;
+                int sum = partsWidth
+                        ? ofSize(c, h, stage) + ofSize(w - behind, h, stage)
+                        : ofSize(w, c, stage) + ofSize(w, h - behind, stage);
+                most = Math.max(most, sum);
+            }
+            return most;
+        }
+
+        private int ofSize(int w, int h, int stage) {
+            int slot = sizeSlot(w, h, stage);
+            return stage <= sheet.stages && within(slot, 0, ofSizes.length - 1) ? ofSizes[slot] : 0;
+        }
+
+        private static int sizeSlot(int w, int h, int stage) {
+            return ((stage - 1) * MOST_SIDE + w - 1) * MOST_SIDE + h - 1;
+        }
+
+        // Both parts of a cut come ahead of what is cut: one ends sooner, one begins later.
+        private void fillParts() {
+            for (int right = 1; right <= sheet.width; right++) {
+                for (int left = right - 1; left >= 0; left--) {
+                    for (int bottom = 1; bottom <= sheet.height; bottom++) {
+                        for (int top = bottom - 1; top >= 0; top--) {
+                            fillPart(left, top, right - left, bottom - top);
+                        }
+                    }
+                }
+            }
+        }
+
+        private void fillPart(int x, int y, int w, int h) {
+            boolean isClean = sheet.isClean(x, y, w, h);
+            int across = span(x, x + w);
+            int down = span(y, y + h);
+            int later = 0;
+            for (int stage = sheet.stages; stage >= 1; stage--) {
+                int worth = ofSize(w, h, stage);
+                if (!isClean && worth > later) {
+                    int ofCuts = sheet.partsWidth(stage)
+                            ? mostOfCuts(partSlot(stage, 0, down), SPANS, x, x + w, worth)
+                            : mostOfCuts(partSlot(stage, across, 0), 1, y, y + h, worth);
+                    worth = Math.max(later, ofCuts);
+                }
+                int slot = partSlot(stage, across, down);
+                if (within(slot, 0, ofParts.length - 1)) {
+                    ofParts[slot] = worth;
+                }
+                later = worth;
+            }
+        }
+
+        /**
+         * The most that cuts of a side's stretch lead to, or the bound once it is reached. The base
+         * is the slot of the stretch 0, the unit is how far apart the slots of two stretches are.
+         */
+        private int mostOfCuts(int base, int unit, int start, int end, int bound) {
+            // The last stretch of all is the one with the greatest slot.
+            if (base < 0 || base + unit * span(end - 1, end) >= ofParts.length) {
+                return 0;
+            }
+            int ahead = base + unit * span(start, start + 1);
+            int behind = base + unit * span(start + 1 + sheet.kerf, end);
+            int most = 0;
+            for (int at = start + 1; at + sheet.kerf < end && most < bound; at++) {
+                int sum = ofParts[ahead] + ofParts[behind];
+                if (sum > most) {
+                    most = sum;
+                }
+                // As span() numbers them, the stretch that ends one further is this far off.
+                ahead += unit * at;
+                behind += unit;
+            }
+            return most;
         }
 
         // Numbers the stretches of a side without gaps: by their ends, then by their starts.
-        private static int span(int start, int length) {
-            int end = start + length;
+        private static int span(int start, int end) {
             return end * (end - 1) / 2 + start;
+        }
+
+        private static int partSlot(int stage, int across, int down) {
+            return ((stage - 1) * SPANS + across) * SPANS + down;
         }
     }
 
@@ -502,7 +532,7 @@ public final class CuttingRules {
             stale = false;
         }
 
-        // As with the worths, 34 levels are the most.
+        // Each level further down has a smaller part or a later stage: there are 34 at the most.
         private void lay(int x, int y, int w, int h, int stage) {
             int worth = worths.of(x, y, w, h, stage);
             if (worth == 0) {
@@ -705,13 +735,13 @@ public final class CuttingRules {
 
         // The patterns come in rising order, so that of equal ones the greatest stays.
         private void tryFirstBars(int wanted, int begun, int mostOfLast) {
-            for (int n = 0; n <= mostOfLast; n++) {
-                int pattern = begun + n;
-                int left = wanted - pattern;
-                if (!within(pattern, 1, CODES - 1) || !within(left, 0, CODES - 1)) {
-                    continue;
-                }
-                int cost = barCosts[pattern] + leastCosts[left];
+            int last = begun + mostOfLast;
+            if (begun < 0 || last > wanted || wanted >= CODES) {
+                return;
+            }
+            // Where one is too long for each stock, so are those with more of the last order.
+            for (int pattern = Math.max(begun, 1); pattern <= last && barCosts[pattern] < NEVER; pattern++) {
+                int cost = barCosts[pattern] + leastCosts[wanted - pattern];
                 if (cost <= leastCosts[wanted]) {
                     leastCosts[wanted] = cost;
                     firstPatterns[wanted] = pattern;

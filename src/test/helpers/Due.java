@@ -1,25 +1,33 @@
 /** What the tests share: the comparison of an answer with the one that is due. */
 final class Due {
+    private static final int MOST_LINES = 100;
     private static int wrong = 0;
+    private static String sentence = "";
 
     private Due() {
     }
 
+    /** The document's words that the following answers are about. */
+    static void sentence(String words) {
+        sentence = words;
+    }
+
     static void is(String call, long got, long want) {
         if (got != want) {
-            wrong++;
-            if (wrong <= 100) {
-                System.out.println(call + " answered " + got + ", due is " + want);
-            }
+            tell(call + " answered " + got + ", due is " + want);
         }
     }
 
     static void holds(String what, boolean holds) {
         if (!holds) {
-            wrong++;
-            if (wrong <= 100) {
-                System.out.println(what);
-            }
+            tell(what);
+        }
+    }
+
+    private static void tell(String what) {
+        wrong++;
+        if (wrong <= MOST_LINES) {
+            System.out.println(sentence.isEmpty() ? what : "[" + sentence + "] " + what);
         }
     }
 

@@ -69,7 +69,9 @@ public final class Face {
         }
         Due.holds(inside + " has twenty fields at most", fields <= 20);
         for (Method m : inside.getDeclaredMethods()) {
-            isNoPublicName(m);
+            if (Modifier.isPrivate(m.getModifiers())) {
+                isNoPublicName(m);
+            }
             Due.holds(m + " takes seven parameters at most", m.getParameterCount() <= 7);
         }
     }

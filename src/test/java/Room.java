@@ -1,9 +1,9 @@
 import java.lang.management.ManagementFactory;
 
-/** The dearest runs of 512 calls: they make nothing beyond the constructor's rows, and they end soon. */
+/** The dearest runs of 512 calls: what they make fits into the room of one run, and they end soon. */
 public final class Room {
-    // Bytes of the rows that a constructor makes, and some for the machine's own doings.
-    private static final long MOST_BYTES = 600_000;
+    // The room of a run has 7.3 million fields and elements, most of them ints.
+    private static final long MOST_BYTES = 4 * 7_300_000L;
     private static final int CALLS = 512;
 
     public static void main(String[] args) {
@@ -63,16 +63,18 @@ public final class Room {
         }
     }
 
-    // The document leaves free what is answered behind the 512th call, but each call has to end.
+    // What is answered behind the 512th call is free, but each call has to end, and none may throw.
     private static void manyChanges() {
         CuttingRules x = new CuttingRules();
         x.plate(9, 9, 0, 4, 0);
         x.defect(4, 4, 1, 1);
         x.kind(2, 3, 6, true);
-        int due = x.worth(0, 0, 9, 9, 1);
-        for (int i = 0; i < 20_000; i++) {
-            x.value(0, 6);
-            Due.is("worth behind change " + i, x.worth(0, 0, 9, 9, 1), due);
+        x.order(2, 5);
+        for (int i = 0; i < 5_000; i++) {
+            x.value(0, 1 + i % 9);
+            x.worth(0, 0, 9, 9, 1);
+            x.stock(1 + i % 99, 1);
+            x.bars();
         }
     }
 }

@@ -94,6 +94,14 @@ public final class BarNumbers {
                 stock(5, 5) = ROOM; order(5, 5) = ROOM; noBars() = 7; stock(5, 5) = 0; stock(5, 4) = 1; stock(5, 3) = 2; stock(5, 2) = ROOM
                 order(5, 1) = 0; price() = 3; order(5, 0) = 1; order(5, 0) = 2; order(5, 1) = 3; order(5, 1) = ROOM; price() = 6
                 """);
+        Script.run("noBars: no bar is of a STOCK that went", """
+                stock(9, 9) = 0; stock(9, 1) = 1; order(5, 1) = 0; price() = 1; noBars() = 3; order(5, 1) = 0; price() = NONE
+                stock(9, 9) = 0; price() = 9; bar(0, *) = 0 4 1 0 0 0
+                """);
+        Script.run("noBars: no bar has pieces of an ORDER that went", """
+                stock(9, 9) = 0; order(5, 1) = 0; order(9, 5) = 1; bars() = 6; noBars() = 3; stock(9, 9) = 0; bars() = 0
+                order(5, 1) = 0; bars() = 1; bar(0, *) = 0 4 1 0 0 0; order(4, 0) = 1; bars() = 1
+                """);
         Script.run("noBars: the PLATE, its DEFECTS, KINDS and BLADE stay", Script.USUAL + """
                 noBars() = 4; told(*) = 4 4 1 2 0 1 2 0 0 1; worth(0, 0, 4, 4, 1) = 19; blade(0) = 1
                 """);

@@ -99,6 +99,11 @@ public final class PlanFacts {
         Script.run("noKinds: a KIND that comes is not as the one that had its number", """
                 plate(1, 2, 0, 1, 0) = 1; kind(2, 1, 9, true) = 0; pieces() = 1; noKinds() = 1; kind(2, 1, 9, false) = 0; pieces() = 0
                 """);
+        // What is worth as much as the kind that went has to be cut now.
+        Script.run("noKinds: no PIECE is of a KIND that went", """
+                plate(2, 1, 0, 1, 0) = 1; kind(1, 1, 2, false) = 0; kind(2, 1, 4, false) = 1; pieces() = 1; piece(0, 0) = 1
+                noKinds() = 2; kind(1, 1, 2, false) = 0; pieces() = 2; cuts() = 1; piece(*, 0) = 0 0
+                """);
         Script.run("noKinds: the PLATE, its DEFECTS, STOCKS, ORDERS and BLADE stay", Script.USUAL + """
                 noKinds() = 2; told(*) = 4 4 1 2 0 1 0 2 2 1; price() = 7; kind(1, 1, 3, false) = 0
                 worth(3, 3, 1, 1, 1) = 0; worth(3, 2, 1, 1, 1) = 3

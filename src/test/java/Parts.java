@@ -12,6 +12,8 @@ public final class Parts {
         behindTheKerf();
         sameStage();
         furtherStage();
+        lastStage();
+        largestPlate();
         worth();
         whatComesFirst();
         numbersOfKinds();
@@ -207,6 +209,47 @@ public final class Parts {
                 plate(3, 3, 1, 4, 1) = 1; kind(1, 3, 2, false) = 0; pieces() = 2; cuts() = 1; cut(0, *) = 2 0 1 0 0 3 3
                 piece(0, *) = 0 0 0 1 3 0; piece(1, *) = 0 2 0 1 3 0; waste() = 3
                 """);
+    }
+
+    // Each row has one piece of 4 by 1 at most; beside six of them there is room for three of 1 by 3.
+    private static void lastStage() {
+        String kinds = "kind(3, 3, 11, false); kind(4, 1, 10, false); kind(1, 3, 3, false)\n";
+        int[] worths = {0, 59, 66, 69};
+        for (int stages = 1; stages <= 4; stages++) {
+            Script.run("a STAGE, from 1 on to STAGES: there are " + stages, kinds + """
+                    plate(6, 6, 0, %d, 0) = 1; defect(4, 1, 1, 1) = 1; defect(0, 5, 1, 1) = 2; worth(0, 0, 6, 6, 1) = %d
+                    """.formatted(stages, worths[stages - 1]));
+        }
+        Script.run("a STAGE, from 1 on to STAGES: a PLAN with CUTS of all four", kinds + """
+                plate(6, 6, 0, 4, 0) = 1; defect(4, 1, 1, 1) = 1; defect(0, 5, 1, 1) = 2; pieces() = 9; cuts() = 11; waste() = 3
+                cut(*, 0) = 1 2 3 2 3 2 3 4 4 3 2; cut(*, 1) = 0 1 0 1 0 1 0 1 1 0 1; cut(*, 2) = 5 1 1 2 4 5 1 3 4 1 3
+                cut(8, *) = 4 1 4 1 3 4 2; cut(10, *) = 2 1 3 5 0 1 6
+                piece(*, 0) = 1 1 2 1 1 1 1 2 2; piece(*, 1) = 1 0 0 1 1 1 1 5 5; piece(*, 2) = 0 1 2 2 3 4 5 0 3
+                """);
+    }
+
+    private static void largestPlate() {
+        String cells = "kind(1, 1, 3, false) = 0\n";
+        for (int first = 0; first <= 1; first++) {
+            // Stage 4 parts a height with FIRST 0 and a width with FIRST 1: whole rows, or whole columns.
+            String row = first == 0 ? "kind(16, 1, 3, false) = 0\n" : "kind(1, 16, 3, false) = 0\n";
+            String plate = "plate(16, 16, 0, 4, " + first + ") = 1\n";
+            Script.run("stage 4 of the largest PLATE", row + plate + """
+                    worth(0, 0, 16, 16, 4) = 48; worth(0, 0, 16, 16, 1) = 48; pieces() = 16; cuts() = 15; cut(14, 0) = 2; kind(16, 16, 49, false) = 1
+                    worth(0, 0, 16, 16, 4) = 49; worth(0, 0, 16, 16, 1) = 49; pieces() = 1
+                    """);
+            Script.run("stage 4 of the largest PLATE, its first cell spoiled", row + plate + """
+                    kind(16, 16, 99, false) = 1; defect(0, 0, 1, 1) = 1; worth(0, 0, 16, 16, 4) = 45; worth(0, 0, 16, 16, 1) = 45; pieces() = 15
+                    """);
+            Script.run("stage 4 of the largest PLATE, its last cell spoiled", row + plate + """
+                    kind(16, 16, 99, false) = 1; defect(15, 15, 1, 1) = 1; worth(0, 0, 16, 16, 4) = 45; worth(0, 0, 16, 16, 1) = 45; pieces() = 15
+                    """);
+            Script.run("stage 4: the last cell of the largest PLATE", cells + plate + """
+                    worth(15, 15, 1, 1, 4) = 3; defect(0, 0, 1, 1) = 1; worth(15, 15, 1, 1, 4) = 3; worth(0, 0, 1, 1, 4) = 0
+                    defect(15, 15, 1, 1) = 2; worth(15, 15, 1, 1, 4) = 0; worth(15, 14, 1, 1, 4) = 3; worth(14, 15, 1, 1, 4) = 3
+                    worth(0, 0, 16, 16, 1) = 762; worth(0, 0, 16, 16, 3) = 762; pieces() = 254; waste() = 2
+                    """);
+        }
     }
 
     private static void worth() {

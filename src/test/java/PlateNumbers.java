@@ -53,6 +53,20 @@ public final class PlateNumbers {
                 plate(3, 1, 0, 1, 0) = 1; kind(1, 1, 7, false) = 0; defect(0, 0, 3, 1) = 1; worth(0, 0, 3, 1, 1) = 0
                 plate(3, 1, 0, 1, 0) = 1; told(5) = 0; worth(0, 0, 3, 1, 1) = 21
                 """);
+        Script.run("plate: Another PLATE, with fewer STAGES than the one before", """
+                kind(1, 1, 1, false) = 0; plate(2, 2, 0, 4, 0) = 1; worth(0, 0, 2, 2, 1) = 4; pieces() = 4
+                plate(2, 2, 0, 3, 0) = 1; worth(0, 0, 2, 2, 2) = 4; worth(0, 0, 2, 2, 3) = 0
+                plate(2, 2, 0, 2, 0) = 1; worth(0, 0, 2, 2, 1) = 4; worth(0, 0, 2, 2, 2) = 0
+                plate(2, 2, 0, 1, 0) = 1; worth(0, 0, 2, 2, 1) = 0; pieces() = 0; cuts() = 0; worth(0, 0, 2, 1, 1) = 2
+                """);
+        Script.run("plate: Another PLATE, with fewer STAGES than the one before, with DEFECTS", """
+                kind(1, 1, 1, false) = 0; plate(3, 2, 0, 4, 0) = 1; defect(0, 0, 1, 1) = 1; worth(0, 0, 3, 2, 1) = 5; pieces() = 5
+                plate(3, 2, 0, 1, 0) = 1; defect(0, 0, 1, 1) = 1; worth(0, 0, 3, 2, 1) = 0; worth(0, 0, 3, 1, 1) = 2; pieces() = 0
+                """);
+        Script.run("plate: Another PLATE, smaller than the one before", """
+                kind(1, 1, 1, false) = 0; plate(6, 5, 0, 2, 1) = 1; worth(0, 0, 6, 5, 1) = 30; pieces() = 30
+                plate(2, 3, 2, 2, 1) = 1; worth(0, 0, 2, 3, 1) = 0; worth(0, 0, 3, 2, 1) = OUTSIDE; pieces() = 0; waste() = 6
+                """);
         Script.run("plate: Another PLATE has room for 6 DEFECTS again", Script.FULL + """
                 defect(0, 0, 1, 1) = ROOM; plate(2, 2, 0, 1, 0) = 1; told(5) = 0
                 defect(0, 0, 1, 1) = 1; defect(0, 0, 1, 1) = 2; defect(0, 0, 1, 1) = 3

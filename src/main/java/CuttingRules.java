@@ -381,13 +381,6 @@ public final class CuttingRules {
             return within(slot, 0, ofParts.length - 1) ? ofParts[slot] : 0;
         }
 
-        int ofCut(int x, int y, int w, int h, int stage, int c) {
-            int behind = c + sheet.kerf;
-            return sheet.partsWidth(stage)
-                    ? of(x, y, c, h, stage) + of(x + behind, y, w - behind, h, stage)
-                    : of(x, y, w, c, stage) + of(x, y + behind, w, h - behind, stage);
-        }
-
         // A part's worth takes those of smaller sizes and of later stages: these come first.
         private void fillSizes() {
             for (int stage = sheet.stages; stage >= 1; stage--) {
@@ -498,6 +491,8 @@ public final class CuttingRules {
         // A piece has a cell at least, and so has each part that the cuts leave.
         private static final int MOST_PIECES = MOST_SIDE * MOST_SIDE;
         private static final int MOST_CUTS = MOST_PIECES - 1;
+        // Each level further down has a side that is shorter, or a later stage.
+        private static final int MOST_LEVELS = 2 * (MOST_SIDE - 1) + MOST_STAGES;
 
         final Sheet sheet;
         final Kinds kinds;
@@ -528,14 +523,13 @@ public final class CuttingRules {
             pieceCount = 0;
             cutCount = 0;
             unused = sheet.width * sheet.height;
-            lay(0, 0, sheet.width, sheet.height, 1);
+            lay(0, 0, sheet.width, sheet.height, 1, 1);
             stale = false;
         }
 
-        // Each level further down has a smaller part or a later stage: there are 34 at the most.
-        private void lay(int x, int y, int w, int h, int stage) {
+        private void lay(int x, int y, int w, int h, int stage, int level) {
             int worth = worths.of(x, y, w, h, stage);
-            if (worth == 0) {
+            if (worth == 0 || level > MOST_LEVELS) {
                 return;
             }
             int kind = sheet.isClean(x, y, w, h) ? kinds.firstOfValue(w, h, worth) : NONE;
@@ -546,27 +540,32 @@ public final class CuttingRules {
             int c = firstCut(x, y, w, h, stage, worth);
             if (c != NONE) {
                 addCut(x, y, w, h, stage, c);
-                layBoth(x, y, w, h, stage, c);
+                layBoth(x, y, w, h, stage, c, level + 1);
             } else if (stage < sheet.stages) {
-                lay(x, y, w, h, stage + 1);
+                lay(x, y, w, h, stage + 1, level + 1);
             }
         }
 
-        private void layBoth(int x, int y, int w, int h, int stage, int c) {
+        private void layBoth(int x, int y, int w, int h, int stage, int c, int level) {
             int behind = c + sheet.kerf;
             if (sheet.partsWidth(stage)) {
-                lay(x, y, c, h, stage);
-                lay(x + behind, y, w - behind, h, stage);
+                lay(x, y, c, h, stage, level);
+                lay(x + behind, y, w - behind, h, stage, level);
             } else {
-                lay(x, y, w, c, stage);
-                lay(x, y + behind, w, h - behind, stage);
+                lay(x, y, w, c, stage, level);
+                lay(x, y + behind, w, h - behind, stage, level);
             }
         }
 
         private int firstCut(int x, int y, int w, int h, int stage, int worth) {
             int last = sheet.lastCut(w, h, stage);
+            boolean partsWidth = sheet.partsWidth(stage);
             for (int c = 1; c <= last; c++) {
-                if (worths.ofCut(x, y, w, h, stage, c) == worth) {
+                int behind = c + sheet.kerf;
+                int sum = partsWidth
+                        ? worths.of(x, y, c, h, stage) + worths.of(x + behind, y, w - behind, h, stage)
+                        : worths.of(x, y, w, c, stage) + worths.of(x, y + behind, w, h - behind, stage);
+                if (sum == worth) {
                     return c;
                 }
             }

@@ -10,6 +10,9 @@ final class Model {
     private record Kind(int w, int h, int value, boolean turns) {
     }
 
+    // How many lists there can be grows so fast that beyond this not all of them are looked through.
+    private static final int MOST_TRIED = 8;
+
     private int width = 1, height = 1, kerf = 0, stages = 1, first = 0, defects = 0, blade = 0;
     private boolean[][] spoiled = new boolean[16][16];
     private final List<Kind> kinds = new ArrayList<>();
@@ -276,7 +279,7 @@ final class Model {
         return was;
     }
 
-    /** How many lists there can be grows so fast that only small demands are compared. */
+    /** How many pieces are wanted of all orders together. */
     int wanted() {
         int sum = 0;
         for (int[] o : orders) {
@@ -314,14 +317,18 @@ final class Model {
             for (int k = 0; k < orders.size(); k++) {
                 left[k] = orders.get(k)[1];
             }
-            tryLists(left, new ArrayList<>(), 0);
+            if (wanted() <= MOST_TRIED) {
+                tryLists(left, new ArrayList<>(), 0);
+            } else {
+                takeBest(left);
+            }
             listKnown = true;
         }
     }
 
     /** All lists whose patterns do not rise: of each set of bars the one that is the greatest. */
     private void tryLists(int[] left, List<int[]> bars, int price) {
-        if (left[0] + left[1] + left[2] + left[3] == 0) {
+        if (wanted(left) == 0) {
             if (bestBars == null || better(price, bars)) {
                 bestBars = new ArrayList<>(bars);
                 bestPrice = price;
@@ -340,7 +347,7 @@ final class Model {
     }
 
     private void tryBar(int[] pattern, int[] left, List<int[]> bars, int price) {
-        boolean empty = pattern[0] + pattern[1] + pattern[2] + pattern[3] == 0;
+        boolean empty = wanted(pattern) == 0;
         boolean rises = !bars.isEmpty() && compare(pattern, bars.get(bars.size() - 1)) > 0;
         if (empty || rises || stockOf(pattern) == NONE) {
             return;
@@ -361,6 +368,74 @@ final class Model {
             }
         }
         return 0;
+    }
+
+    /** A list of bars: its first one and the rest. */
+    private record Bars(int price, int count, int[] pattern, Bars rest) {
+    }
+
+    /** The best list that begins with a pattern has the best one of what is left behind it. */
+    private void takeBest(int[] left) {
+        Bars best = best(left, new HashMap<>());
+        bestBars = best == null ? null : new ArrayList<>();
+        bestPrice = best == null ? 0 : best.price;
+        for (Bars bars = best; bars != null && bars.count > 0; bars = bars.rest) {
+            bestBars.add(bars.pattern);
+        }
+    }
+
+    private Bars best(int[] left, Map<List<Integer>, Bars> known) {
+        List<Integer> key = List.of(left[0], left[1], left[2], left[3]);
+        if (known.containsKey(key)) {
+            return known.get(key);
+        }
+        Bars best = wanted(left) == 0 ? new Bars(0, 0, null, null) : null;
+        for (int a = 0; a <= left[0]; a++) {
+            for (int b = 0; b <= left[1]; b++) {
+                for (int c = 0; c <= left[2]; c++) {
+                    for (int d = 0; d <= left[3]; d++) {
+                        best = betterOf(best, begun(new int[] {a, b, c, d}, left, known));
+                    }
+                }
+            }
+        }
+        known.put(key, best);
+        return best;
+    }
+
+    private Bars begun(int[] pattern, int[] left, Map<List<Integer>, Bars> known) {
+        int stock = wanted(pattern) == 0 ? NONE : stockOf(pattern);
+        if (stock == NONE) {
+            return null;
+        }
+        int[] then = {left[0] - pattern[0], left[1] - pattern[1], left[2] - pattern[2], left[3] - pattern[3]};
+        Bars rest = best(then, known);
+        return rest == null ? null : new Bars(stocks.get(stock)[1] + rest.price, 1 + rest.count, pattern, rest);
+    }
+
+    private static Bars betterOf(Bars one, Bars other) {
+        if (one == null || other == null) {
+            return one == null ? other : one;
+        }
+        if (one.price != other.price) {
+            return one.price < other.price ? one : other;
+        }
+        if (one.count != other.count) {
+            return one.count < other.count ? one : other;
+        }
+        Bars p = one;
+        for (Bars q = other; q.count > 0; q = q.rest) {
+            int difference = compare(p.pattern, q.pattern);
+            if (difference != 0) {
+                return difference > 0 ? one : other;
+            }
+            p = p.rest;
+        }
+        return one;
+    }
+
+    private static int wanted(int[] numbers) {
+        return numbers[0] + numbers[1] + numbers[2] + numbers[3];
     }
 
     private boolean better(int price, List<int[]> bars) {

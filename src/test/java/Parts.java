@@ -14,6 +14,7 @@ public final class Parts {
         furtherStage();
         lastStage();
         largestPlate();
+        deepestPlan();
         worth();
         whatComesFirst();
         numbersOfKinds();
@@ -250,6 +251,26 @@ public final class Parts {
                     worth(0, 0, 16, 16, 1) = 762; worth(0, 0, 16, 16, 3) = 762; pieces() = 254; waste() = 2
                     """);
         }
+    }
+
+    // Nothing but the last corner is clean, so that each side loses one cell a cut, over all four stages.
+    private static void deepestPlan() {
+        Script.run("THE PLAN that goes as deep as any", """
+                plate(16, 16, 0, 4, 0) = 1; defect(0, 0, 14, 16) = 1; defect(14, 0, 2, 12) = 2; defect(15, 14, 1, 1) = 3
+                kind(1, 1, 10, false) = 0; kind(2, 1, 100, false) = 1; kind(1, 3, 250, false) = 2
+                worth(0, 0, 16, 16, 1) = 370; pieces() = 4; cuts() = 30; waste() = 249
+                cut(13, *) = 1 0 14 13 0 3 16; cut(14, *) = 2 1 1 14 0 2 16; cut(26, *) = 2 1 13 14 12 2 4
+                cut(27, *) = 3 0 15 14 13 2 3; cut(28, *) = 4 1 14 15 13 1 3; cut(29, *) = 4 1 15 15 14 1 2
+                piece(*, 0) = 1 2 0 0; piece(*, 1) = 14 14 15 15; piece(*, 2) = 12 13 13 15; piece(4, 0) = NONE
+                """);
+        Script.run("THE PLAN that goes as deep as any, with FIRST 1", """
+                plate(16, 16, 0, 4, 1) = 1; defect(0, 0, 16, 14) = 1; defect(0, 14, 12, 2) = 2; defect(14, 15, 1, 1) = 3
+                kind(1, 1, 10, false) = 0; kind(1, 2, 100, false) = 1; kind(3, 1, 250, false) = 2
+                worth(0, 0, 16, 16, 1) = 370; pieces() = 4; cuts() = 30; waste() = 249
+                cut(13, *) = 1 1 14 0 13 16 3; cut(14, *) = 2 0 1 0 14 16 2; cut(26, *) = 2 0 13 12 14 4 2
+                cut(27, *) = 3 1 15 13 14 3 2; cut(28, *) = 4 0 14 13 15 3 1; cut(29, *) = 4 0 15 14 15 2 1
+                piece(*, 0) = 1 2 0 0; piece(*, 1) = 12 13 13 15; piece(*, 2) = 14 14 15 15; piece(4, 0) = NONE
+                """);
     }
 
     private static void worth() {

@@ -2,8 +2,8 @@ import java.util.Random;
 
 /** Runs of calls, right and wrong ones, on the program and on the model: the answers are the same. */
 public final class RandomRuns {
-    // What is answered behind the 512th call is free; the largest group has 108 calls.
-    private static final int MOST_CALLS = 512 - 108;
+    // What is answered behind the 512th call is free; a list of 20 bars and a change take 129 calls.
+    private static final int MOST_CALLS = 512 - 129;
     private static final int[] FAR = {Integer.MIN_VALUE, Integer.MAX_VALUE, -1000, 100000, -2, 17, 1 << 30};
 
     private final Random random;
@@ -25,8 +25,11 @@ public final class RandomRuns {
         for (int seed = 1; seed <= 600; seed++) {
             new RandomRuns(seed, 1 + seed % 9).calls();
         }
-        for (int seed = 1001; seed <= 1006; seed++) {
+        for (int seed = 1001; seed <= 1024; seed++) {
             new RandomRuns(seed, 16).calls();
+        }
+        for (int seed = 2001; seed <= 2400; seed++) {
+            new RandomRuns(seed, 1).fullRacks();
         }
         Due.end();
     }
@@ -54,6 +57,29 @@ public final class RandomRuns {
                 askBars();
             } else {
                 told();
+            }
+        }
+    }
+
+    /** All stocks and orders there may be, with demands up to the most. */
+    private void fullRacks() {
+        int longest = from(10, 99);
+        for (int i = 0; i < 3; i++) {
+            int length = i == 0 ? longest : from(1, longest);
+            int price = manyTies ? 1 + length / 8 : from(1, 100);
+            same("stock(" + length + ", " + price + ")", x.stock(length, price), m.stock(length, price));
+        }
+        for (int i = 0; i < 4; i++) {
+            int length = from(1, random.nextBoolean() ? longest : 1 + longest / 3), demand = from(0, 5);
+            same("order(" + length + ", " + demand + ")", x.order(length, demand), m.order(length, demand));
+        }
+        while (made <= MOST_CALLS) {
+            wholeList();
+            int k = from(0, 3), n = from(0, 5), blade = from(0, 3);
+            if (random.nextBoolean()) {
+                same("demand(" + k + ", " + n + ")", x.demand(k, n), m.demand(k, n));
+            } else {
+                same("blade(" + blade + ")", x.blade(blade), m.blade(blade));
             }
         }
     }
@@ -118,7 +144,7 @@ public final class RandomRuns {
         }
     }
 
-    /** How many pieces more the model can look through soon. */
+    /** How many pieces more the model can look through all lists of soon. */
     private int room() {
         return Math.max(0, 8 - m.wanted());
     }
@@ -167,12 +193,16 @@ public final class RandomRuns {
     }
 
     private void askBars() {
-        same("price()", x.price(), m.price());
-        same("bars()", x.bars(), m.bars());
         if (random.nextInt(4) == 0) {
             sameBar(near(0, Math.max(0, m.bars() - 1)), near(0, 5));
-            return;
+        } else {
+            wholeList();
         }
+    }
+
+    private void wholeList() {
+        same("price()", x.price(), m.price());
+        same("bars()", x.bars(), m.bars());
         for (int i = 0; i <= m.bars(); i++) {
             for (int what = 0; what < 6; what++) {
                 sameBar(i, what);
